@@ -1,0 +1,107 @@
+import java.nio.charset.StandardCharsets;
+
+/** What the tests share: telling texts to a house, and counting answers that are not as due. */
+final class Check {
+    private static int passed = 0;
+    private static int failed = 0;
+
+    private Check() {
+    }
+
+    static void due(String call, long want, long got) {
+        if (got == want) {
+            passed++;
+        } else {
+            failed++;
+            System.out.println(call + " answered " + got + ", due is " + want);
+        }
+    }
+
+    static void yes(String call, boolean got) {
+        due(call, 1, got ? 1 : 0);
+    }
+
+    static void no(String call, boolean got) {
+        due(call, 0, got ? 1 : 0);
+    }
+
+    /** The exception must be just of this class: a machine's own one is of a class below. */
+    static void thrown(String call, Class<? extends RuntimeException> want, Runnable run) {
+        try {
+            run.run();
+        } catch (RuntimeException e) {
+            if (e.getClass() == want) {
+                passed++;
+            } else {
+                failed++;
+                System.out.println(call + " threw " + e + ", due is " + want.getName());
+            }
+            return;
+        }
+        failed++;
+        System.out.println(call + " threw nothing, due is " + want.getName());
+    }
+
+    static void outside(String call, Runnable run) {
+        thrown(call, IndexOutOfBoundsException.class, run);
+    }
+
+    static void wrong(String call, Runnable run) {
+        thrown(call, IllegalArgumentException.class, run);
+    }
+
+    static void noSuch(String call, Runnable run) {
+        thrown(call, java.util.NoSuchElementException.class, run);
+    }
+
+    /** Puts bytes on a tape that is empty. */
+    static void tape(SaturdayKeep keep, int... bytes) {
+        for (int i = 0; i < bytes.length; i += 20) {
+            int[] numbers = new int[5];
+            for (int j = 0; j < 20; j++) {
+                int sign = i + j < bytes.length ? bytes[i + j] : 0;
+                numbers[j / 4] = numbers[j / 4] << 8 | sign & 255;
+            }
+            keep.feed(numbers[0], numbers[1], numbers[2], numbers[3], numbers[4]);
+        }
+        keep.end(bytes.length);
+    }
+
+    static void tape(SaturdayKeep keep, String text) {
+        byte[] bytes = text.getBytes(StandardCharsets.ISO_8859_1);
+        int[] signs = new int[bytes.length];
+        for (int i = 0; i < bytes.length; i++) {
+            signs[i] = bytes[i];
+        }
+        tape(keep, signs);
+    }
+
+    static int house(SaturdayKeep keep, String text) {
+        tape(keep, text);
+        return keep.house();
+    }
+
+    static int law(SaturdayKeep keep, String text) {
+        tape(keep, text);
+        return keep.law();
+    }
+
+    static SaturdayKeep with(String house) {
+        SaturdayKeep keep = new SaturdayKeep();
+        house(keep, house);
+        return keep;
+    }
+
+    static SaturdayKeep with(String house, String law) {
+        SaturdayKeep keep = with(house);
+        law(keep, law);
+        return keep;
+    }
+
+    static void end(String test) {
+        System.out.println(test + ": " + passed + " passed, " + failed + " failed");
+        if (failed > 0) {
+            System.exit(1);
+        }
+    }
+}
