@@ -1321,7 +1321,17 @@ public final class SaturdayKeep {
                 return tokens.take(kind);
             }
             if (kind == Tokens.NOT || kind == Tokens.OPEN) {
-                return depth < DEEPEST && readNested(kind, depth + 1);
+                if (depth >= DEEPEST || !tokens.take(kind)) {
+                    return false;
+                }
+                if (kind == Tokens.OPEN) {
+                    return readAny(depth + 1) && tokens.take(Tokens.CLOSE);
+                }
+                if (!readAtom(depth + 1)) {
+                    return false;
+                }
+                draft.put(Law.NOT);
+                return true;
             }
             if (!readSum()) {
                 return false;
@@ -1331,20 +1341,6 @@ public final class SaturdayKeep {
                 return false;
             }
             draft.put(compared);
-            return true;
-        }
-
-        private boolean readNested(int kind, int depth) {
-            if (depth > DEEPEST || !tokens.take(kind)) {
-                return false;
-            }
-            if (kind == Tokens.OPEN) {
-                return readAny(depth) && tokens.take(Tokens.CLOSE);
-            }
-            if (!readAtom(depth)) {
-                return false;
-            }
-            draft.put(Law.NOT);
             return true;
         }
 

@@ -79,6 +79,7 @@ public final class AskingTest {
         Check.due("from 11 to 20", 11, bored(true, 10, 0, 20, 1));
         Check.due("in 21", 1, bored(false, 20, 0, 21, 1));
         Check.due("in 21", 21, bored(true, 20, 0, 21, 1, 3, 0));
+        Check.due("in the last one", 51, bored(true, 50, 0));
         Check.due("neither", 0, bored(false, 20, 1, 20, 0));
         Check.due("neither", -1, bored(true, 3, 1, 5, 0));
     }

@@ -189,12 +189,29 @@ public final class DaysTest {
         }
         x.back();
         Check.yes("they are parted", least < most);
+        spanOfOneDay();
         Check.due("span, the fewest", least, x.span(30, false));
         Check.due("span, the most", most, x.span(30, true));
         Check.due("span of none", 0, x.span(0, true));
         Check.due("nothing stays", 11, x.count(3));
         Check.wrong("span(-1)", () -> x.span(-1, true));
         Check.wrong("span(61)", () -> x.span(61, false));
+    }
+
+    /** By single risks, so that each of the six seeds is once the one that matters. */
+    private static void spanOfOneDay() {
+        for (int wish = 0; wish <= 10; wish++) {
+            SaturdayKeep x = Check.with("guest wish " + wish + " at 0 doubt 99;day 6");
+            int looks = 0;
+            for (int seed = 1; seed <= 6; seed++) {
+                looks += draws(seed, 1)[0] % 10 < wish ? 1 : 0;
+            }
+            Check.due("the fewest by wish " + wish, looks == 6 ? 1 : 0, x.span(1, false));
+            Check.due("the most by wish " + wish, looks > 0 ? 1 : 0, x.span(1, true));
+        }
+        SaturdayKeep x = Check.with("guest wish 10 at 0 doubt 99;day 6");
+        Check.due("sixty days", 9, x.span(60, false));
+        Check.due("sixty days", 9, x.span(60, true));
     }
 
     private static void log() {

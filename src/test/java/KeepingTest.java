@@ -11,6 +11,7 @@ public final class KeepingTest {
         forgotten();
         image();
         imageOfAll();
+        imageOfTheLog();
         Check.end("KeepingTest");
     }
 
@@ -202,5 +203,31 @@ public final class KeepingTest {
         Check.due("but for the fault", 7, x.fault());
         Check.yes("and the tape", x.end(6));
         Check.due("texts", 2, x.house());
+    }
+
+    /** The log is a ring: more looks than it holds must not show through behind going back. */
+    private static void imageOfTheLog() {
+        StringBuilder text = new StringBuilder("day 6");
+        for (int g = 0; g < 8; g++) {
+            text.append(";guest wish 10 at 0 doubt 99");
+        }
+        SaturdayKeep x = Check.with(text.toString());
+        x.days(1);
+        x.image();
+        x.come(0, false);
+        x.days(60);
+        x.days(20);
+        Check.due("a full log", 60, x.count(14));
+        x.back();
+        for (int ago = 0; ago < 8; ago++) {
+            Check.due("day of row " + ago, 6, x.log(ago, 0));
+            Check.due("guest of row " + ago, 7 - ago, x.log(ago, 1));
+        }
+        Check.due("no more", -1, x.log(8, 0));
+        x.days(60);
+        x.days(20);
+        x.undo();
+        x.undo();
+        Check.due("undone", 6, x.log(7, 0));
     }
 }

@@ -99,6 +99,7 @@ public final class SeeingTest {
         Check.due("the middle", 8, Check.with("hole 3 7;hole 0 3;hole 3 1;hole 2 3").shut());
         Check.due("a round of eight", 85,
                 Check.with("hole 0 1;hole 1 2;hole 2 3;hole 3 4;hole 4 5;hole 5 6;hole 6 7;hole 7 0").shut());
+        Check.due("from room 0", 1, Check.with("hole 0 3;hole 0 5").shut());
         SaturdayKeep all = new SaturdayKeep();
         for (int a = 0; a < 8; a++) {
             for (int b = 0; b < 8; b++) {
@@ -116,6 +117,7 @@ public final class SeeingTest {
         Check.due("quiet", 200, x.quiet());
         x.come(1, false);
         Check.due("without 1", 202, x.quiet());
+        Check.due("of guest 0 alone", 254, Check.with("guest wish 1 at 0").quiet());
     }
 
     private static void best() {
@@ -256,6 +258,7 @@ public final class SeeingTest {
         Check.due("crowd", 2, x.crowd());
         x.come(0, false);
         Check.due("the least of several", 1, x.crowd());
+        Check.due("in room 0", 0, Check.with("guest wish 1 at 0").crowd());
         x.come(1, false);
         x.come(2, false);
         x.come(3, false);

@@ -132,6 +132,10 @@ public final class TextsTest {
         houseFault("bath x", 5);
         houseFault("baths 1", 0);
         houseFault("Bath 1", 0);
+        houseFault("bathz 1", 0);
+        houseFault("batha 1", 0);
+        houseFault("beth 1", 0);
+        houseFault("hath 1", 0);
         houseFault("bath\t1", 4);
         houseFault("bath -1", 5);
         houseFault("bath 0001", 5);
@@ -276,6 +280,8 @@ public final class TextsTest {
         turns(1, "doubt 1 if not 1 < 0 or key");
         turns(0, "doubt 1 if not (1 < 0 or key)");
         turns(1, "doubt 1 if not 1 < 0 and key");
+        turns(0, "doubt 1 if key and eve and 1 < 0");
+        turns(2, "doubt 2 if 1 < 0 or 2 < 1 or eve and key and 1 < 2");
         turns(5, "doubt 5if key and(eve)and not(not key)or 1<0");
     }
 
