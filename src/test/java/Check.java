@@ -1,9 +1,13 @@
+import java.io.IOException;
 import java.nio.charset.StandardCharsets;
+import java.nio.file.Files;
+import java.nio.file.Path;
 
 /** What the tests share: telling texts to a house, and counting answers that are not as due. */
 final class Check {
     private static int passed = 0;
     private static int failed = 0;
+    private static String document = null;
 
     private Check() {
     }
@@ -15,6 +19,26 @@ final class Check {
             failed++;
             System.out.println(call + " answered " + got + ", due is " + want);
         }
+    }
+
+    /** The sentence that is tested next: it must stand in the document as it is told here. */
+    static void says(String sentence) {
+        if (document == null) {
+            document = oneLine(read(Path.of("..", "shared", "DOC.md")));
+        }
+        yes("the document says: " + sentence, document.contains(oneLine(sentence)));
+    }
+
+    private static String read(Path file) {
+        try {
+            return Files.readString(file);
+        } catch (IOException e) {
+            return "";
+        }
+    }
+
+    private static String oneLine(String text) {
+        return text.replaceAll("\\s+", " ");
     }
 
     static void yes(String call, boolean got) {
@@ -74,6 +98,31 @@ final class Check {
             signs[i] = bytes[i];
         }
         tape(keep, signs);
+    }
+
+    /** The draws that come from a seed, as the document tells them. */
+    static int[] draws(int seed, int n) {
+        int[] draws = new int[n];
+        long s = seed;
+        for (int i = 0; i < n; i++) {
+            s = s * 1103515245L + 12345 & 0xffffffffL;
+            draws[i] = (int) (s / 65536 % 32768);
+        }
+        return draws;
+    }
+
+    /** The seed behind so many draws. */
+    static int seedAfter(int seed, int n) {
+        int s = seed;
+        for (int i = 0; i < n; i++) {
+            s = s * 1103515245 + 12345;
+        }
+        return s;
+    }
+
+    /** The same line so many times over, as a text. */
+    static String times(int n, String line) {
+        return String.join(";", java.util.Collections.nCopies(n, line));
     }
 
     static int house(SaturdayKeep keep, String text) {

@@ -15,17 +15,6 @@ public final class DaysTest {
         Check.end("DaysTest");
     }
 
-    /** The draws that come, as the document tells them. */
-    private static int[] draws(int seed, int n) {
-        int[] draws = new int[n];
-        int s = seed;
-        for (int i = 0; i < n; i++) {
-            s = 1103515245 * s + 12345;
-            draws[i] = s >>> 16 & 0x7fff;
-        }
-        return draws;
-    }
-
     private static void doubts() {
         SaturdayKeep x = Check.with("guest wish 1 at 4 doubt 97;guest wish 1 at 4 doubt 3;guest wish 1 at 5 doubt 50");
         x.come(2, false);
@@ -58,12 +47,12 @@ public final class DaysTest {
         Check.due("one away does not look", 0, x.days(60));
         SaturdayKeep calm = Check.with("guest wish 1 at 0 doubt 40;day 6");
         Check.due("no risk, no look", 0, calm.days(1));
-        Check.due("but a draw for him", draws(1, 2)[1] & 1, calm.seed(1) >>> 16 & 1);
+        Check.due("but a draw for him", Check.draws(1, 2)[1] & 1, calm.seed(1) >>> 16 & 1);
         // Doubt turns ahead of the look: 49 becomes 50, and the wish is whole.
         SaturdayKeep brim = Check.with("guest wish 10 at 0 doubt 49;day 6");
         Check.due("in doubt by then", 1, brim.days(1));
         SaturdayKeep below = Check.with("guest wish 10 at 0 doubt 48;day 6");
-        int first = draws(1, 1)[0];
+        int first = Check.draws(1, 1)[0];
         Check.due("half the wish", first % 10 < 5 ? 1 : 0, below.days(1));
     }
 
@@ -72,7 +61,7 @@ public final class DaysTest {
             SaturdayKeep x = Check.with("guest wish 6 at 3 doubt 70;guest wish 9 at 6;guest wish 8 at 2 doubt 9 key;"
                     + "guest wish 7 at 1 doubt 99;hole 1 3;bath 3;bore 50;day 6", "");
             x.seed(seed);
-            int[] draws = draws(seed, 5);
+            int[] draws = Check.draws(seed, 5);
             int due = (draws[0] % 10 < 6 ? 1 : 0) + (draws[1] % 10 < 4 ? 4 : 0) + (draws[2] % 10 < 7 ? 8 : 0);
             Check.due("looks by seed " + seed, Integer.bitCount(due), x.days(1));
             Check.due("doubt of 0", (due & 1) != 0 ? 99 : 70, x.guest(0, 2));
@@ -118,11 +107,11 @@ public final class DaysTest {
         SaturdayKeep none = Check.with("bore 0");
         none.days(60);
         Check.due("no hole", 0, none.count(11));
-        Check.due("a draw each day", draws(1, 61)[60], nextDraw(none));
+        Check.due("a draw each day", Check.draws(1, 61)[60], nextDraw(none));
     }
 
     private static int nextDraw(SaturdayKeep x) {
-        return draws(x.seed(1), 1)[0];
+        return Check.draws(x.seed(1), 1)[0];
     }
 
     private static void lastDay() {
@@ -204,7 +193,7 @@ public final class DaysTest {
             SaturdayKeep x = Check.with("guest wish " + wish + " at 0 doubt 99;day 6");
             int looks = 0;
             for (int seed = 1; seed <= 6; seed++) {
-                looks += draws(seed, 1)[0] % 10 < wish ? 1 : 0;
+                looks += Check.draws(seed, 1)[0] % 10 < wish ? 1 : 0;
             }
             Check.due("the fewest by wish " + wish, looks == 6 ? 1 : 0, x.span(1, false));
             Check.due("the most by wish " + wish, looks > 0 ? 1 : 0, x.span(1, true));

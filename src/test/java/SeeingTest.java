@@ -24,14 +24,6 @@ public final class SeeingTest {
         Check.end("SeeingTest");
     }
 
-    private static String guests(int n, String guest) {
-        StringBuilder text = new StringBuilder();
-        for (int i = 0; i < n; i++) {
-            text.append(i == 0 ? "" : ";").append(guest);
-        }
-        return text.toString();
-    }
-
     private static void odds() {
         SaturdayKeep x = Check.with(HOUSE);
         Check.due("odds", 9040, x.odds());
@@ -42,9 +34,9 @@ public final class SeeingTest {
         x.come(3, false);
         Check.due("nobody", 0, x.odds());
         Check.due("sure", 10000, Check.with("guest wish 10 at 0 doubt 50").odds());
-        Check.due("rounded down", 9999, Check.with(guests(8, "guest wish 9 at 0 doubt 50")).odds());
-        Check.due("1 - 0.9^8", 5695, Check.with(guests(8, "guest wish 2 at 0")).odds());
-        Check.due("1 - 0.7^5", 8319, Check.with(guests(5, "guest wish 3 at 0 doubt 99")).odds());
+        Check.due("rounded down", 9999, Check.with(Check.times(8, "guest wish 9 at 0 doubt 50")).odds());
+        Check.due("1 - 0.9^8", 5695, Check.with(Check.times(8, "guest wish 2 at 0")).odds());
+        Check.due("1 - 0.7^5", 8319, Check.with(Check.times(5, "guest wish 3 at 0 doubt 99")).odds());
     }
 
     private static void send() {
@@ -67,7 +59,7 @@ public final class SeeingTest {
         Check.due("sent(0)", 11, x.sent(0));
         Check.wrong("sent(-1)", () -> x.sent(-1));
         Check.wrong("sent(10000)", () -> x.sent(10000));
-        SaturdayKeep alike = Check.with(guests(4, "guest wish 4 at 0"));
+        SaturdayKeep alike = Check.with(Check.times(4, "guest wish 4 at 0"));
         Check.due("the least as bits", 1, alike.sent(5000));
         Check.due("the least as bits", 3, alike.sent(4000));
         alike.come(0, false);
@@ -154,14 +146,14 @@ public final class SeeingTest {
         // The first one might stay, but then so could no other: all of three must find rooms 6 and 7 and 1.
         lodgings(Check.with("guest wish 1 at 3;guest wish 1 at 3;hole 2 0;hole 4 0"), 1, 1, 3);
         lodgings(Check.with("guest wish 1 at 1 key;guest wish 1 at 1;guest wish 1 at 0"), 2, 2, 1, 3);
-        SaturdayKeep seven = Check.with(guests(7, "guest wish 1 at 7"));
+        SaturdayKeep seven = Check.with(Check.times(7, "guest wish 1 at 7"));
         lodgings(seven, 6, 1, 2, 3, 4, 5, 6, 7);
         seven.hole(3, 0, true);
         lodgings(seven, -1);
         Check.due("none", -1, seven.lodge(0));
-        lodgings(Check.with(guests(8, "guest wish 1 at 7")), -1);
-        lodgings(Check.with(guests(6, "guest wish 1 at 4 key")), -1);
-        lodgings(Check.with(guests(5, "guest wish 1 at 4 key")), 4, 2, 3, 4, 5, 6);
+        lodgings(Check.with(Check.times(8, "guest wish 1 at 7")), -1);
+        lodgings(Check.with(Check.times(6, "guest wish 1 at 4 key")), -1);
+        lodgings(Check.with(Check.times(5, "guest wish 1 at 4 key")), 4, 2, 3, 4, 5, 6);
         lodgings(Check.with("guest wish 1 at 4 key;bath 7"), 0, 4);
         lodgings(Check.with("guest wish 1 at 0 key;bath 7"), 1, 1);
     }

@@ -177,22 +177,14 @@ public final class TextsTest {
         houseFault("bath 1;\u00ff", 7);
     }
 
-    private static String times(int n, String line) {
-        StringBuilder text = new StringBuilder();
-        for (int i = 0; i < n; i++) {
-            text.append(i == 0 ? "" : ";").append(line);
-        }
-        return text.toString();
-    }
-
     private static void houseTooMany() {
         SaturdayKeep x = new SaturdayKeep();
-        Check.due("14 lines", 1, Check.house(x, times(14, "bath 1")));
-        Check.wrong("15 lines", () -> Check.house(x, times(14, "bath 1") + "; bath 1"));
+        Check.due("14 lines", 1, Check.house(x, Check.times(14, "bath 1")));
+        Check.wrong("15 lines", () -> Check.house(x, Check.times(14, "bath 1") + "; bath 1"));
         Check.due("the 15th line's first word", 99, x.fault());
-        Check.wrong("14 lines and ;", () -> Check.house(x, times(14, "bath 1") + ";"));
+        Check.wrong("14 lines and ;", () -> Check.house(x, Check.times(14, "bath 1") + ";"));
         Check.due("text's length", 98, x.fault());
-        Check.house(x, times(7, "guest wish 1 at 1"));
+        Check.house(x, Check.times(7, "guest wish 1 at 1"));
         Check.due("7 guests", 7, x.count(0));
         Check.wrong("two guests more", () -> Check.house(x, "bath 2;guest wish 1 at 1 key; guest wish 11"));
         Check.due("the 9th guest's first word", 30, x.fault());
@@ -237,9 +229,9 @@ public final class TextsTest {
         Check.due("blank law", 0, Check.law(x, "  "));
         Check.due("lines", 0, x.count(2));
         Check.due("one line", 1, Check.law(x, "doubt 30"));
-        Check.due("twelve lines", 12, Check.law(x, times(12, "calm 0 if eve or key")));
+        Check.due("twelve lines", 12, Check.law(x, Check.times(12, "calm 0 if eve or key")));
         Check.due("twelve lines", 12, x.count(2));
-        Check.wrong("13 lines", () -> Check.law(x, times(12, "doubt 1") + ";calm 1"));
+        Check.wrong("13 lines", () -> Check.law(x, Check.times(12, "doubt 1") + ";calm 1"));
         Check.due("the 13th line's first word", 96, x.fault());
         Check.due("the law before stays", 12, x.count(2));
         Check.due("in place of the one before", 2, Check.law(x, " doubt 1 ; calm 2 if week < 1 "));
