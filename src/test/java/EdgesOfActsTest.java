@@ -204,6 +204,9 @@ public final class EdgesOfActsTest {
         Check.due("all of it", 100, x.guest(2, 8));
         x.come(2, false);
         Check.due("none of those here has any", 0, x.guest(3, 8));
+        SaturdayKeep little = Check.with("guest wish 1 at 1 doubt 1;guest wish 1 at 1");
+        Check.due("all of it, be it 1 alone", 100, little.guest(0, 8));
+        Check.due("nothing of it", 0, little.guest(1, 8));
         Check.due("of one away", 0, x.guest(2, 8));
         x.come(3, false);
         Check.due("none here", 0, x.guest(3, 8));

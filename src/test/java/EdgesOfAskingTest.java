@@ -44,6 +44,9 @@ public final class EdgesOfAskingTest {
         Check.due("with it", 2, x.saturdays(5));
         Check.due("of 399", 114, x.saturdays(399));
         Check.due("of 400", 115, x.saturdays(400));
+        Check.due("not yesterday", 0, Check.with("day 7").saturdays(0));
+        Check.due("nor to-day's morrow", 0, Check.with("day 5").saturdays(1));
+        Check.due("by the new one alone", 1, Check.with("day 3").saturdays(1));
         SaturdayKeep same = Check.with("shift 1 0;day 6");
         Check.due("by both is one", 1, same.saturdays(1));
         Check.due("of 400", 58, same.saturdays(400));
@@ -58,6 +61,7 @@ public final class EdgesOfAskingTest {
         Check.due("of none", 0, x.agree(0));
         Check.due("today by one", 0, x.agree(1));
         Check.due("then by none", 1, x.agree(2));
+        Check.due("not yesterday", 0, Check.with("day 8").agree(0));
         Check.due("up to the new one's", 3, x.agree(4));
         Check.due("with it", 3, x.agree(5));
         Check.due("of 400", 285, x.agree(400));

@@ -59,6 +59,11 @@ public final class EdgesOfDaysTest {
             y.days(1);
             Check.due(99 - d[0] + " less " + d[1], 99 - d[2], y.guest(0, 2));
         }
+        SaturdayKeep all = Check.with(Check.times(8, "guest wish 0 at 3 doubt 40"));
+        all.days(1);
+        for (int g = 0; g < 8; g++) {
+            Check.due("each of eight", 41, all.guest(g, 2));
+        }
         SaturdayKeep x = Check.with("guest wish 0 at 3;guest wish 0 at 3 doubt 7");
         x.come(1, false);
         x.days(2);
@@ -260,6 +265,22 @@ public final class EdgesOfDaysTest {
         Check.law(z, "doubt 1 if week > 999 + 428");
         Check.due("ahead goes on beyond it", 99, z.ahead(0, 400, 0));
         Check.due("and so does first", 99, z.first(0, 99));
+        aheadOfTheLastDay();
+    }
+
+    private static void aheadOfTheLastDay() {
+        SaturdayKeep x = late("guest wish 0 at 3;shift 0 2;shift 1 1;masons 0", 0);
+        Check.law(x, "doubt 1 if eve");
+        Check.due("the last day", 9999, x.count(3));
+        Check.due("it stays the eve by shift 2", 50, x.ahead(0, 50, 0));
+        x.keep(1);
+        Check.due("and none by shift 1", 0, x.ahead(0, 50, 0));
+        SaturdayKeep y = late("guest wish 0 at 3;shift 0 3;shift 1 1;masons 0", 1);
+        Check.law(y, "doubt 1 if eve");
+        Check.due("the last but one is the eve by shift 3", 1, y.ahead(0, 1, 0));
+        Check.due("and is gone then", 1, y.ahead(0, 50, 0));
+        y.days(1);
+        Check.due("not so on the last one", 1, y.ahead(0, 50, 0));
     }
 
     private static void drawGoesRound() {
@@ -362,6 +383,10 @@ public final class EdgesOfDaysTest {
         Check.due("399", 399, Check.with("stones 399").gone());
         Check.due("400", 400, Check.with("stones 400").gone());
         Check.due("401", -1, Check.with("stones 401").gone());
+        SaturdayKeep x = Check.with("guest wish 1 at 1;stones 9");
+        x.ahead(0, 400, 2);
+        Check.due("from now, whatever was asked before", 9, x.gone());
+        Check.due("and once more", 9, x.gone());
         Check.due("800 by 2", 400, Check.with("stones 800;masons 2").gone());
         Check.due("801 by 2", -1, Check.with("stones 801;masons 2").gone());
     }
@@ -381,6 +406,10 @@ public final class EdgesOfDaysTest {
         y.days(3);
         Check.due("they stand", 0, y.stand(5));
         Check.due("no more", -1, y.stand(6));
+        SaturdayKeep z = Check.with("guest wish 1 at 1;stones 9");
+        z.ahead(0, 400, 1);
+        Check.due("from now, whatever was asked before", 9, z.stand(9));
+        Check.due("and once more", 9, z.stand(9));
         for (int n : new int[] {LEAST, -1, 0, 10000, MOST}) {
             Check.wrong("stand(" + n + ")", () -> x.stand(n));
         }
@@ -417,6 +446,11 @@ public final class EdgesOfDaysTest {
         Check.due("two here, by 400", 58, x.spread(400));
         x.come(0, false);
         Check.due("one here", 0, x.spread(400));
+        Check.due("all at the most", 0, Check.with("guest wish 1 at 1 doubt 99;guest wish 1 at 1 doubt 99").spread(0));
+        Check.due("all at the least", 0, Check.with("guest wish 1 at 1;guest wish 1 at 1").spread(0));
+        Check.due("one at the most", 0, Check.with("guest wish 1 at 1 doubt 99").spread(0));
+        Check.due("the eighth", 9, Check.with(Check.times(7, "guest wish 1 at 1 doubt 90") + ";guest wish 1 at 1 doubt 99").spread(0));
+        Check.due("the eighth", 9, Check.with(Check.times(7, "guest wish 1 at 1 doubt 9") + ";guest wish 1 at 1").spread(0));
         x.come(2, false);
         Check.due("none here", 0, x.spread(0));
         Check.due("none here", 0, x.spread(400));
@@ -457,6 +491,7 @@ public final class EdgesOfDaysTest {
             Check.due("the most by " + wish, looks == 0 ? 0 : 1, x.span(1, true));
             Check.due("SEED stays", 12345, x.seed(1));
         }
+        spanBySeeds();
         SaturdayKeep x = Check.with(WATCHER);
         x.days(1);
         Check.due("the fewest of sixty: 13, .. 62", 8, x.span(60, false));
@@ -465,6 +500,43 @@ public final class EdgesOfDaysTest {
             Check.wrong("span(" + n + ")", () -> x.span(n, false));
             Check.wrong("span(" + n + ")", () -> x.span(n, true));
         }
+    }
+
+    /** How often one of this RISK looks in so many DAYS from day 6 on, by a SEED. */
+    private static int looksBy(int seed, int risk, int days) {
+        int[] draws = Check.draws(seed, 2 * days);
+        int next = 0;
+        int looks = 0;
+        for (int day = 6; day < 6 + days; day++) {
+            if (day % 7 == 6) {
+                looks += draws[next++] % 10 < risk ? 1 : 0;
+            }
+            next++;
+        }
+        return looks;
+    }
+
+    private static void spanBySeeds() {
+        int alone = 0;
+        for (int wish = 1; wish <= 9; wish++) {
+            SaturdayKeep x = Check.with("guest wish " + wish + " at 0 doubt 99;day 6");
+            for (int days = 1; days <= 60; days += 7) {
+                int[] looks = new int[6];
+                for (int seed = 1; seed <= 6; seed++) {
+                    looks[seed - 1] = looksBy(seed, wish, days);
+                }
+                int[] sorted = looks.clone();
+                java.util.Arrays.sort(sorted);
+                Check.due("the fewest of " + days + " by " + wish, sorted[0], x.span(days, false));
+                Check.due("the most of " + days + " by " + wish, sorted[5], x.span(days, true));
+                for (int i = 0; i < 6; i++) {
+                    boolean fewest = looks[i] == sorted[0] && sorted[0] < sorted[1];
+                    boolean most = looks[i] == sorted[5] && sorted[5] > sorted[4];
+                    alone |= fewest || most ? 1 << i : 0;
+                }
+            }
+        }
+        Check.due("each SEED alone is once the one that tells", 63, alone);
     }
 
     /** Eight look on each of the days 6, 13, .. 48, and four of them on day 55: 60 rows. */

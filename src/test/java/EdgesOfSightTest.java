@@ -183,6 +183,11 @@ public final class EdgesOfSightTest {
                 + "hole 5 6;hole 6 7");
         w.hole(7, 5, true);
         Check.due("one of much rather than two of little", 3, w.best());
+        for (int room = 0; room < 8; room++) {
+            SaturdayKeep but = Check.with(text.toString());
+            but.come(room, false);
+            Check.due("the one without a WATCHER", room, but.best());
+        }
     }
 
     private static void lodgings(SaturdayKeep x, int moves, int... rooms) {
@@ -205,6 +210,16 @@ public final class EdgesOfSightTest {
         lodgings(Check.with("guest wish 1 at 1 key"), 1, 2);
         lodgings(Check.with("guest wish 1 at 7 key"), 1, 2);
         lodgings(Check.with("guest wish 1 at 1;hole 1 0;hole 2 0"), 1, 3);
+        lodgings(Check.with("guest wish 1 at 0;bath 4"), 0, 0);
+        lodgings(Check.with("guest wish 1 at 7 key;bath 4"), 0, 7);
+        SaturdayKeep last = Check.with(Check.times(8, "guest wish 1 at 6"));
+        for (int g = 0; g < 7; g++) {
+            last.come(g, false);
+        }
+        lodgings(last, 0, 6);
+        last.key(7, true);
+        last.bath(7);
+        lodgings(last, 1, 1);
         SaturdayKeep x = Check.with(Check.times(3, "guest wish 1 at 5"));
         lodgings(x, 2, 1, 2, 5);
         x.come(1, false);
@@ -298,6 +313,7 @@ public final class EdgesOfSightTest {
         Check.due("two", 1, Check.with("guest wish 1 at 1;guest wish 1 at 1 doubt 9 key").alike());
         Check.due("another wish", 0, Check.with("guest wish 1 at 1;guest wish 2 at 1").alike());
         Check.due("another room", 0, Check.with("guest wish 1 at 1;guest wish 1 at 2").alike());
+        Check.due("those who are none are not alike", 0, Check.with("guest wish 0 at 0").alike());
         Check.due("eight", 28, watchers(8, 3).alike());
     }
 
@@ -319,6 +335,11 @@ public final class EdgesOfSightTest {
         Check.due("nearly all round", 7, x.line(7, 6));
         x.hole(0, 6, true);
         Check.due("a shorter one", 2, x.line(0, 7));
+        x.hole(1, 7, true);
+        Check.due("two of the same length", 2, x.line(0, 7));
+        SaturdayKeep three = Check.with("hole 0 1;hole 0 2;hole 0 3;hole 1 4;hole 2 4;hole 4 5;hole 4 0");
+        Check.due("by two of three", 2, three.line(0, 4));
+        Check.due("and beyond", 3, three.line(0, 5));
         Check.due("for the same, not round", 0, x.line(3, 3));
     }
 

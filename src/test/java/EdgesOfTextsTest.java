@@ -14,6 +14,9 @@ public final class EdgesOfTextsTest {
         holeIntoAnother();
         threeDigits();
         wordsAndBlanks();
+        eachWordInItsPlace();
+        eachSignInItsPlace();
+        lettersOfWords();
         strangeBytes();
         noLine();
         moreMustCome();
@@ -273,6 +276,152 @@ public final class EdgesOfTextsTest {
         Check.due("and with many", 1, Check.law(x, "   doubt   1   if   key   "));
     }
 
+    private static final String[] WORDS = {"guest", "room", "wish", "doubted", "towers", "holes", "week", "key", "eve", "at",
+        "doubt", "calm", "if", "or", "and", "not", "hole", "bath", "shift", "keep", "masons", "stones", "bore", "day"};
+    private static final String SUMS = " guest room wish doubted towers holes week ";
+
+    /** Behind such a text only these words can stand; of each other one the first byte is wrong. */
+    private static void wordsBehind(boolean law, String text, String can) {
+        for (String word : WORDS) {
+            if (!can.contains(" " + word + " ")) {
+                if (law) {
+                    lawRefused(text + word, text.length());
+                } else {
+                    refused(text + word, text.length());
+                }
+            }
+        }
+    }
+
+    private static void eachWordInItsPlace() {
+        Check.says("a word that is none;");
+        wordsBehind(false, "", " guest hole bath shift keep masons stones bore day ");
+        wordsBehind(false, "day 1 ; ", " guest hole bath shift keep masons stones bore day ");
+        wordsBehind(false, "guest ", " wish ");
+        wordsBehind(false, "guest wish ", "");
+        wordsBehind(false, "guest wish 3 ", " at ");
+        wordsBehind(false, "guest wish 3 at ", "");
+        wordsBehind(false, "guest wish 3 at 3 ", " doubt key ");
+        wordsBehind(false, "guest wish 3 at 3 doubt ", "");
+        wordsBehind(false, "guest wish 3 at 3 doubt 3 ", " key ");
+        wordsBehind(false, "guest wish 3 at 3 doubt 3 key ", "");
+        wordsBehind(false, "hole ", "");
+        wordsBehind(false, "hole 1 ", "");
+        wordsBehind(false, "hole 1 2 ", "");
+        wordsBehind(false, "shift 1 ", "");
+        for (String word : new String[] {"bath", "shift", "keep", "masons", "stones", "bore", "day"}) {
+            wordsBehind(false, word + " ", "");
+            wordsBehind(false, word + " 1 ", "");
+        }
+        wordsBehind(true, "", " doubt calm ");
+        wordsBehind(true, "calm 1;", " doubt calm ");
+        wordsBehind(true, "doubt ", "");
+        wordsBehind(true, "calm ", "");
+        wordsBehind(true, "calm 1 ", " if ");
+        for (String begin : new String[] {"if ", "if not ", "if (", "if key and ", "if key or "}) {
+            wordsBehind(true, "calm 1 " + begin, SUMS + " key eve not ");
+        }
+        for (String atom : new String[] {"key ", "eve ", "(key) ", "not key ", "1 < 2 ", "week > 3 ", "1 < 2 + 3 "}) {
+            wordsBehind(true, "calm 1 if " + atom, " and or ");
+        }
+        for (String sum : new String[] {"1 ", "week ", "1 + 2 "}) {
+            wordsBehind(true, "calm 1 if " + sum, "");
+        }
+        for (String begun : new String[] {"1 < ", "1 > ", "1 + ", "1 < 2 + "}) {
+            wordsBehind(true, "calm 1 if " + begun, SUMS);
+        }
+    }
+
+    /** Behind such a text only these signs can stand; a number, where none is told. */
+    private static void signsBehind(boolean law, String text, String can) {
+        for (char sign : new char[] {';', '(', ')', '<', '>', '+', '7'}) {
+            if (can.indexOf(sign) < 0) {
+                if (law) {
+                    lawRefused(text + sign, text.length());
+                } else {
+                    refused(text + sign, text.length());
+                }
+            }
+        }
+    }
+
+    private static void eachSignInItsPlace() {
+        Check.says("the begin of the first thing that cannot stand there");
+        signsBehind(false, "", "");
+        signsBehind(false, "guest ", "");
+        signsBehind(false, "guest wish ", "7");
+        signsBehind(false, "guest wish 3 ", "");
+        signsBehind(false, "guest wish 3 at 3 ", ";");
+        signsBehind(false, "guest wish 3 at 3 doubt ", "7");
+        signsBehind(false, "guest wish 3 at 3 key ", ";");
+        signsBehind(false, "hole 1 ", "7");
+        signsBehind(false, "hole 1 2 ", ";");
+        signsBehind(false, "bath 1 ", ";");
+        signsBehind(false, "bath 1 ; ", "");
+        signsBehind(true, "", "");
+        signsBehind(true, "doubt ", "7");
+        signsBehind(true, "doubt 1 ", ";");
+        signsBehind(true, "doubt 1 ; ", "");
+        for (String begin : new String[] {"", "not ", "(", "key and ", "key or "}) {
+            signsBehind(true, "doubt 1 if " + begin, "(7");
+        }
+        signsBehind(true, "doubt 1 if key ", ";");
+        signsBehind(true, "doubt 1 if (key ", ")");
+        signsBehind(true, "doubt 1 if (key) ", ";");
+        signsBehind(true, "doubt 1 if 1 ", "<>+");
+        signsBehind(true, "doubt 1 if week ", "<>+");
+        signsBehind(true, "doubt 1 if 1 + ", "7");
+        signsBehind(true, "doubt 1 if 1 < ", "7");
+        signsBehind(true, "doubt 1 if 1 < 2 ", "+;");
+        signsBehind(true, "doubt 1 if (1 > 2 ", "+)");
+    }
+
+    /** A word of which one letter is another one is none, and neither is one that is longer or shorter. */
+    private static void lettersOfWords() {
+        Check.says("Words are as long as a to z go on");
+        String[] lines = {"guest wish 3 at 3 doubt 3 key", "hole 1 2", "bath 1", "shift 1 1", "keep 1", "masons 1", "stones 1",
+            "bore 1", "day 1"};
+        String[] law = {"doubt 1 if key and eve or not guest<room", "calm 1 if wish+doubted>towers+holes+week"};
+        for (String line : lines) {
+            Check.due(line, 1, Check.house(new SaturdayKeep(), line));
+            letters(false, line);
+        }
+        for (String line : law) {
+            Check.due(line, 1, Check.law(new SaturdayKeep(), line));
+            letters(true, line);
+        }
+    }
+
+    private static boolean isLetter(String line, int at) {
+        return at >= 0 && at < line.length() && line.charAt(at) >= 'a' && line.charAt(at) <= 'z';
+    }
+
+    private static void letters(boolean law, String line) {
+        for (int i = 0; i < line.length(); i++) {
+            int begin = i;
+            while (isLetter(line, begin - 1)) {
+                begin--;
+            }
+            if (isLetter(line, i)) {
+                String head = line.substring(0, i);
+                for (String other : new String[] {"z", "zz", line.substring(i, i + 1) + "z", ""}) {
+                    // A word of one letter less that is nothing at all is not looked at.
+                    if (!other.isEmpty() || isLetter(line, i + 1) || i > begin) {
+                        wordRefused(law, head + other + line.substring(i + 1), begin);
+                    }
+                }
+            }
+        }
+    }
+
+    private static void wordRefused(boolean law, String text, int at) {
+        if (law) {
+            lawRefused(text, at);
+        } else {
+            refused(text, at);
+        }
+    }
+
     private static void strangeBytes() {
         Check.says("between all there may be blanks (32)");
         int[] strange = {0, 1, 9, 10, 13, 31, 33, '/', ':', '=', '@', 'A', 'Z', '[', '`', '{', 127, 128, 160, 223, 255};
@@ -423,11 +572,11 @@ public final class EdgesOfTextsTest {
     private static void facts() {
         Check.says("Of a GUEST on a DAY: doubted: DOUBT; holes: how many HOLES there are from his ROOM; week: DAY by 7, rounded down;"
                 + " key: he has a KEY; eve: the next DAY is SATURDAY by the CALENDAR that is KEPT.");
-        SaturdayKeep x = Check.with("guest wish 0 at 0;" + Check.times(6, "guest wish 5 at 3 doubt 50") + ";guest wish 10 at 7 doubt 99 key");
-        for (int room = 0; room < 7; room++) {
-            x.hole(7, room, true);
+        SaturdayKeep x = Check.with("guest wish 1 at 7;" + Check.times(6, "guest wish 5 at 3 doubt 50") + ";guest wish 10 at 0 doubt 99 key");
+        for (int room = 1; room < 8; room++) {
+            x.hole(0, room, true);
         }
-        int[][] due = {{0, 0, 0, 0, 0}, {7, 7, 10, 99, 7}};
+        int[][] due = {{0, 7, 1, 0, 0}, {7, 0, 10, 99, 7}};
         String[] facts = {"guest", "room", "wish", "doubted", "holes"};
         for (int i = 0; i < facts.length; i++) {
             fact(x, 0, facts[i], due[0][i]);
