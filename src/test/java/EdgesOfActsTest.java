@@ -34,6 +34,10 @@ public final class EdgesOfActsTest {
 
     private static void withoutGuests() {
         Check.says("A house without GUESTS.");
+        Check.says("THE BATH: a ROOM (0 at first). CALENDARS 0 (old) and 1 (new), each of a SHIFT 0 to 6 (0 and 3 at first)");
+        Check.says("KEPT: a CALENDAR (0 at first).");
+        Check.says("MASONS 0 to 9 (1 at first), STONES 0 to 9999 (100 at first), TOWERS 0 to 9999 (0 at first).");
+        Check.says("BORE 0 to 100 (0 at first). DAY: 0 at first. SEEN: how often it was seen (0 at first).");
         SaturdayKeep x = new SaturdayKeep();
         int[] due = {0, 0, -1, 0, 0, 0, 1, 100, 0, 0, 0, 0, 0, 0, 0, 0};
         for (int what = 0; what < due.length; what++) {
