@@ -549,7 +549,7 @@ public final class SaturdayKeep {
     private int movesBy(int k, int room, int taken) {
         int guest = now.guests.lodger(k);
         int then = withMember(taken, room, true);
-        if (holds(taken, room) || then >= moves.length
+        if (holds(taken, room) || then < 0 || then >= moves.length
                 || holds(now.sight(room, holds(now.guests.keys, guest)), now.bath)) {
             return NO_WAY;
         }
@@ -558,7 +558,7 @@ public final class SaturdayKeep {
 
     private int firstLodging(int k, int taken) {
         for (int room = 0; room < ROOMS; room++) {
-            if (taken < moves.length && movesBy(k, room, taken) == moves[taken]) {
+            if (taken >= 0 && taken < moves.length && movesBy(k, room, taken) == moves[taken]) {
                 return room;
             }
         }

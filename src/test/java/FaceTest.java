@@ -2,9 +2,13 @@ import java.lang.reflect.Constructor;
 import java.lang.reflect.Field;
 import java.lang.reflect.Method;
 import java.lang.reflect.Modifier;
+import java.nio.file.Files;
+import java.nio.file.Path;
 import java.util.Arrays;
 import java.util.Set;
 import java.util.TreeSet;
+import java.util.regex.Matcher;
+import java.util.regex.Pattern;
 
 /** The public face, and the rules of the language about it that can be looked at from outside. */
 public final class FaceTest {
@@ -19,7 +23,7 @@ public final class FaceTest {
         "stand(int)", "trial(int,boolean)", "undo()", "well()",
     };
 
-    public static void main(String[] args) {
+    public static void main(String[] args) throws Exception {
         Class<?> face = SaturdayKeep.class;
         Check.due("public final", Modifier.PUBLIC | Modifier.FINAL, face.getModifiers());
         Set<String> publics = new TreeSet<>();
@@ -45,7 +49,35 @@ public final class FaceTest {
             Check.yes(c + " is the public one", Modifier.isPublic(c.getModifiers()) && c.getParameterCount() == 0);
         }
         classes(face);
+        asWritten();
         Check.end("FaceTest");
+    }
+
+    /** Each line of the face stands in the source just as the document has it: answer, names and exceptions, too. */
+    private static void asWritten() throws Exception {
+        Path document = Path.of("..", "shared", "DOC.md");
+        if (!Files.isReadable(document)) {
+            System.out.println(document + " can't be read: the face is not compared with it");
+            return;
+        }
+        String source = oneLine(Path.of("src", "main", "java", "SaturdayKeep.java"));
+        Matcher face = Pattern.compile("```java (.*?) ```").matcher(oneLine(document));
+        Check.yes("the document has a face", face.find());
+        String[] lines = face.group(1).split(";");
+        int members = 0;
+        for (String line : lines) {
+            int begin = line.indexOf("public ", line.contains("{") ? line.indexOf('{') : 0);
+            if (begin >= 0) {
+                String member = line.substring(begin);
+                members++;
+                Check.yes("the face has " + member, source.contains(member + (member.contains("=") ? ";" : " {")));
+            }
+        }
+        Check.due("members of the face: NONE, the constructor, and the methods", FACE.length + 2, members);
+    }
+
+    private static String oneLine(Path file) throws Exception {
+        return Files.readString(file).replaceAll("\\s+", " ");
     }
 
     private static void classes(Class<?> face) {
